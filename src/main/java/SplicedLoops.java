@@ -74,7 +74,14 @@ public final class SplicedLoops {
         past.forget();
         slot0.filled = false;
         slot1.filled = false;
-        return text.performOn(now);
+        int leftOut = 0;
+        text.begin();
+        for (int i = 0; i < MOST_SIGNS && text.readCommand(); i++) {
+            if (!now.perform(text.letter, text.number(0), text.number(1), text.number(2), text.number(3))) {
+                leftOut++;
+            }
+        }
+        return leftOut;
     }
 
     // ---- what there is
@@ -165,8 +172,8 @@ public final class SplicedLoops {
             case 1: return one.p;
             case 2: return one.q;
             case 3: return one.phase;
-            case 4: return one.headBehind(0);
-            case 5: return get(one.cells, one.headBehind(0));
+            case 4: return one.headIn(one.phase);
+            case 5: return get(one.cells, one.headIn(one.phase));
             case 6: return one.muted ? 1 : 0;
             case 7: return one.period();
             default: return one.tapes;
@@ -406,11 +413,11 @@ public final class SplicedLoops {
     }
 
     private static int get(int[] row, int index) {
-        return outside(index, 0, row.length - 1) ? 0 : row[index];
+        return index < 0 || index >= row.length ? 0 : row[index];
     }
 
     private static void put(int[] row, int index, int value) {
-        if (!outside(index, 0, row.length - 1)) {
+        if (index >= 0 && index < row.length) {
             row[index] = value;
         }
     }
@@ -450,7 +457,7 @@ public final class SplicedLoops {
         }
 
         private boolean isQuiet(int place) {
-            return place == 0 || place == length || isSilent(place - 1) && isSilent(place);
+            return place == 0 || place == length || get(cells, place - 1) == 0 && get(cells, place) == 0;
         }
 
         private boolean startsRow(int c, boolean silent) {
@@ -577,12 +584,13 @@ public final class SplicedLoops {
             return phases <= 0 ? 0 : (phase + n * p) % phases;
         }
 
-        private int headBehind(int n) {
-            return isEmpty() || q <= 0 ? NONE : phaseBehind(n) / q;
+        /** The cell of the head in a phase. */
+        private int headIn(int itsPhase) {
+            return length == 0 || q <= 0 ? NONE : itsPhase / q;
         }
 
         private int heardBehind(int n) {
-            return muted ? 0 : get(cells, headBehind(n));
+            return muted ? 0 : get(cells, headIn(phaseBehind(n)));
         }
 
         private int period() {
@@ -632,7 +640,7 @@ public final class SplicedLoops {
         }
 
         private int changeSpeed(int newP, int newQ) {
-            phase = isEmpty() ? 0 : headBehind(0) * newQ;
+            phase = isEmpty() ? 0 : headIn(phase) * newQ;
             p = newP;
             q = newQ;
             return phase;
@@ -860,7 +868,8 @@ public final class SplicedLoops {
                 case MUTE:
                     return changeMuted(loopAt(a), b == 1);
                 case TICKS:
-                    return goOn(a);
+                    goOn(a);
+                    return soundBehind(0);
                 case RECORD:
                     return recordOn(reelAt(a), b);
                 default:
@@ -943,7 +952,7 @@ public final class SplicedLoops {
             return soundBehind(0);
         }
 
-        private int goOn(int n) {
+        private void goOn(int n) {
             for (int l = 0; l < loopCount; l++) {
                 Loop one = loopAt(l);
                 if (one != null) {
@@ -951,7 +960,6 @@ public final class SplicedLoops {
                 }
             }
             time += n;
-            return soundBehind(0);
         }
 
         private int recordOn(Reel reel, int n) {
@@ -1061,6 +1069,7 @@ public final class SplicedLoops {
         private final int[] numbers = new int[MOST_NUMBERS];
         private int length;
         private int at;
+        private int letter;
 
         private boolean isFull() {
             return length >= MOST_SIGNS;
@@ -1082,12 +1091,20 @@ public final class SplicedLoops {
             return outside(index, 0, length - 1) ? NONE : get(signs, index);
         }
 
+        private int number(int index) {
+            return get(numbers, index);
+        }
+
+        /** Goes to the first command, behind the Z. */
+        private void begin() {
+            at = 1;
+        }
+
         private int firstError() {
-            at = 0;
             if (signAt(0) != 'Z') {
                 return 0;
             }
-            at = 1;
+            begin();
             for (int i = 0; i < MOST_SIGNS && at < length; i++) {
                 if (!readCommand()) {
                     return at;
@@ -1096,25 +1113,9 @@ public final class SplicedLoops {
             return NONE;
         }
 
-        /** Does the commands of a text without an error; answers how many are left out. */
-        private int performOn(Studio studio) {
-            int leftOut = 0;
-            at = 1;
-            for (int i = 0; i < MOST_SIGNS && at < length; i++) {
-                int letter = signAt(at);
-                if (!readCommand()) {
-                    return leftOut;
-                }
-                if (!studio.perform(letter, get(numbers, 0), get(numbers, 1), get(numbers, 2), get(numbers, 3))) {
-                    leftOut++;
-                }
-            }
-            return leftOut;
-        }
-
-        /** Reads the command that begins here; if it has an error, the reading stops there. */
+        /** Reads the command that begins here; if none does or it has an error, the reading stops there. */
         private boolean readCommand() {
-            int letter = signAt(at);
+            letter = signAt(at);
             if (!isCommand(letter)) {
                 return false;
             }

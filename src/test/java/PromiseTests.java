@@ -183,6 +183,8 @@ public final class PromiseTests {
         error("Zt000", 4);
         error("Zt00", 4);
         error("Zta", 2);
+        error("Zt0:0", 3);
+        error("Zt1/0", 3);
         error("Zw3", 2);
         error("Zw000", 4);
         error("Zw061", 4);
@@ -191,6 +193,8 @@ public final class PromiseTests {
 
     private static void promise5() {
         SplicedLoops x = busy();
+        x.splice(0, 0, 0, 0);
+        x.save(1);
         x.clearText();
         Due.write(x, "Zr16p002045p009103llc000007c100713c000716v123m01t012w012c100012c000305m00t040l");
         due("load()", x.load(), 2);
@@ -265,6 +269,7 @@ public final class PromiseTests {
         due("reelOf(0, 2) of a silent reel", full.reelOf(0, 2), 0);
         full.paint(0, 0, 1, 9);
         due("reelOf(0, 4) without a silence", full.reelOf(0, 4), 0);
+        due("reelOf(0, 3) without a silence", full.reelOf(0, 3), 18);
         due("reelOf(0, 1) without a silence", full.reelOf(0, 1), 0);
         due("reelOf(0, 2) without a silence", full.reelOf(0, 2), 1);
         refuses("reelOf(-1, 0)", INDEX, PromiseTests::busy, y -> y.reelOf(-1, 0));
@@ -406,6 +411,13 @@ public final class PromiseTests {
         x.undo();
         due("reel(50) behind undo()", x.reel(50), 2);
         due("it is all silent", x.reelOf(2, 3) + " " + x.reelOf(2, 4), "0 50");
+        SplicedLoops again = fresh();
+        again.save(0);
+        again.reel(30);
+        again.paint(0, 0, 29, 9);
+        again.restore(0);
+        due("reel(60) behind restore()", again.reel(60), 0);
+        due("it is all silent", again.reelOf(0, 3) + " " + again.reelOf(0, 4), "0 60");
         refuses("reel(1)", ARGUMENT, PromiseTests::busy, y -> y.reel(1));
         refuses("reel(61)", ARGUMENT, PromiseTests::busy, y -> y.reel(61));
         refuses("reel(20) with three", STATE, PromiseTests::threeReels, y -> y.reel(20));
@@ -453,15 +465,14 @@ public final class PromiseTests {
         }
         refuses("loop() with four", STATE, PromiseTests::fourLoops, SplicedLoops::loop);
         SplicedLoops again = silentReel(4);
+        again.save(0);
         again.loop();
         again.splice(1, 0, 0, 4);
         again.speed(1, 3, 5);
         again.mute(1, true);
         again.ticks(3);
-        for (int i = 0; i < 5; i++) {
-            again.undo();
-        }
-        due("loop() behind undo()", again.loop(), 1);
+        again.restore(0);
+        due("loop() behind restore()", again.loop(), 1);
         loopIs(again, 1, "0 1 1 0 -1 0 0 -1 0");
     }
 
@@ -700,6 +711,12 @@ public final class PromiseTests {
         x.loop();
         meets(x, 0, 3, -1);
         meets(x, 3, 3, -1);
+        SplicedLoops later = loopsOf("123450", "1234567890");
+        later.ticks(2);
+        later.unsplice(0);
+        later.paint(0, 5, 5, 1);
+        later.splice(0, 0, 0, 6);
+        meets(later, 0, 1, 18);
         SplicedLoops never = loopsOf("1234", "12345678");
         never.ticks(1);
         never.splice(0, 0, 0, 4);
@@ -746,6 +763,9 @@ public final class PromiseTests {
         x.speed(0, 2, 1);
         x.speed(2, 2, 1);
         due("meetAll() at speed 2", x.meetAll(), 44);
+        SplicedLoops shared = loopsOf("123456", "1234", "1234567");
+        shared.ticks(2);
+        due("meetAll() of periods with a common divisor", shared.meetAll(), 82);
         SplicedLoops never = loopsOf("1234", "123456");
         never.ticks(1);
         never.splice(0, 0, 0, 4);
@@ -823,6 +843,8 @@ public final class PromiseTests {
         SplicedLoops last = loopsOf("1234", "2341");
         due("the last cell as the first", last.turnedBy(0, 1), 3);
         due("and back", last.turnedBy(1, 0), 1);
+        due("the first cell alone is unlike", loopsOf("122", "322").turnedBy(0, 1), -1);
+        due("the last cell alone is unlike", loopsOf("221", "223").turnedBy(0, 1), -1);
         refuses("turnedBy(3, 0)", INDEX, PromiseTests::busy, y -> y.turnedBy(3, 0));
         refuses("turnedBy(0, 3)", INDEX, PromiseTests::busy, y -> y.turnedBy(0, 3));
         refuses("turnedBy(-1, 0)", INDEX, PromiseTests::busy, y -> y.turnedBy(-1, 0));
@@ -871,6 +893,8 @@ public final class PromiseTests {
         two(1000015, 8020000, 1);
         two(1000015, 8200000, 1);
         two(1000015, 8040000, 1);
+        two(1000001, 6000007, -1);
+        two(1000001, 6000008, 1);
         two(1000998, 7000007, -1);
         two(1000998, 7100000, -1);
         two(1000999, 7100000, 1);
