@@ -3,9 +3,9 @@ import java.util.function.Supplier;
 
 /** Each promise of the document by its number: ordinary inputs, the edges that it names, wrong inputs. */
 public final class PromiseTests {
-    private static final Class<?> INDEX = IndexOutOfBoundsException.class;
-    private static final Class<?> ARGUMENT = IllegalArgumentException.class;
-    private static final Class<?> STATE = IllegalStateException.class;
+    private static final Class<?> INDEX = Due.INDEX;
+    private static final Class<?> ARGUMENT = Due.ARGUMENT;
+    private static final Class<?> STATE = Due.STATE;
 
     private static void due(String call, Object got, Object want) {
         Due.due(call, got, want);
@@ -15,81 +15,18 @@ public final class PromiseTests {
         Due.refuses(what, wanted, maker, call);
     }
 
-    private static SplicedLoops fresh() {
-        return new SplicedLoops();
-    }
-
-    private static SplicedLoops withText(String text) {
-        SplicedLoops x = new SplicedLoops();
-        Due.write(x, text);
-        return x;
-    }
-
-    /**
-     * Reel 0: 20 cells, 000 4444 000 9 000 222 000; reel 1: 9 cells, 0 77 000000.
-     * Loop 0: cells 0 to 8 and 12 to 20 of reel 0 (16 cells); loop 1: all of reel 1; loop 2: empty.
-     */
-    private static SplicedLoops usual() {
-        SplicedLoops x = new SplicedLoops();
-        x.reel(20);
-        x.reel(9);
-        x.paint(0, 3, 6, 4);
-        x.paint(0, 10, 10, 9);
-        x.paint(0, 14, 16, 2);
-        x.paint(1, 1, 2, 7);
-        x.loop();
-        x.loop();
-        x.loop();
-        x.splice(0, 0, 0, 8);
-        x.splice(0, 0, 12, 20);
-        x.splice(1, 1, 0, 9);
-        return x;
-    }
-
-    /** As usual(), with a text, a filled save slot 0, and behind some ticks. */
-    private static SplicedLoops busy() {
-        SplicedLoops x = usual();
-        Due.write(x, "Zl");
-        x.save(0);
-        x.ticks(2);
-        return x;
-    }
-
-    /** A reel of n silent cells and a loop. */
-    private static SplicedLoops silentReel(int n) {
-        SplicedLoops x = new SplicedLoops();
-        x.reel(n);
-        x.loop();
-        return x;
-    }
-
-    /** Loops of the sounds told, each as one digit; each loop on a reel of its own, so at most three. */
-    private static SplicedLoops loopsOf(String... sounds) {
-        SplicedLoops x = new SplicedLoops();
-        for (int l = 0; l < sounds.length; l++) {
-            int n = sounds[l].length();
-            x.reel(n);
-            x.loop();
-            for (int c = 0; c < n; c++) {
-                x.paint(l, c, c, sounds[l].charAt(c) - '0');
-            }
-            x.splice(l, l, 0, n);
-        }
-        return x;
-    }
-
     private static void promise1() {
-        SplicedLoops x = fresh();
+        SplicedLoops x = Studios.fresh();
         for (int what = 0; what < 8; what++) {
             due("about(" + what + ") of a new object", x.about(what), 0);
         }
         due("errorPosition() of a new object", x.errorPosition(), 0);
         due("clearText() of a new object", x.clearText(), 0);
-        refuses("reelOf(0, 0) of a new object", INDEX, PromiseTests::fresh, y -> y.reelOf(0, 0));
-        refuses("loopOf(0, 0) of a new object", INDEX, PromiseTests::fresh, y -> y.loopOf(0, 0));
-        refuses("undo() of a new object", STATE, PromiseTests::fresh, SplicedLoops::undo);
-        refuses("restore(0) of a new object", STATE, PromiseTests::fresh, y -> y.restore(0));
-        refuses("restore(1) of a new object", STATE, PromiseTests::fresh, y -> y.restore(1));
+        refuses("reelOf(0, 0) of a new object", INDEX, Studios::fresh, y -> y.reelOf(0, 0));
+        refuses("loopOf(0, 0) of a new object", INDEX, Studios::fresh, y -> y.loopOf(0, 0));
+        refuses("undo() of a new object", STATE, Studios::fresh, SplicedLoops::undo);
+        refuses("restore(0) of a new object", STATE, Studios::fresh, y -> y.restore(0));
+        refuses("restore(1) of a new object", STATE, Studios::fresh, y -> y.restore(1));
         due("NONE", SplicedLoops.NONE, -1);
     }
 
@@ -102,11 +39,11 @@ public final class PromiseTests {
     }
 
     private static void promise2() {
-        SplicedLoops x = fresh();
+        SplicedLoops x = Studios.fresh();
         due("append(0)", x.append(0), 1);
         due("append(255)", x.append(255), 2);
-        refuses("append(-1)", ARGUMENT, PromiseTests::busy, y -> y.append(-1));
-        refuses("append(256)", ARGUMENT, PromiseTests::busy, y -> y.append(256));
+        refuses("append(-1)", ARGUMENT, Studios::busy, y -> y.append(-1));
+        refuses("append(256)", ARGUMENT, Studios::busy, y -> y.append(256));
         refuses("append(90) to a full text", STATE, PromiseTests::fullText, y -> y.append(90));
         refuses("append(256) to a full text", ARGUMENT, PromiseTests::fullText, y -> y.append(256));
         SplicedLoops full = fullText();
@@ -119,7 +56,7 @@ public final class PromiseTests {
     }
 
     private static void promise3() {
-        SplicedLoops x = withText("Zlll");
+        SplicedLoops x = Studios.withText("Zlll");
         due("clearText()", x.clearText(), 4);
         due("clearText() again", x.clearText(), 0);
         due("errorPosition() behind it", x.errorPosition(), 0);
@@ -129,7 +66,7 @@ public final class PromiseTests {
     }
 
     private static void error(String text, int want) {
-        due("errorPosition() of \"" + text + "\"", withText(text).errorPosition(), want);
+        due("errorPosition() of \"" + text + "\"", Studios.withText(text).errorPosition(), want);
     }
 
     private static void promise4() {
@@ -192,7 +129,7 @@ public final class PromiseTests {
     }
 
     private static void promise5() {
-        SplicedLoops x = busy();
+        SplicedLoops x = Studios.busy();
         x.splice(0, 0, 0, 0);
         x.save(1);
         x.clearText();
@@ -205,34 +142,34 @@ public final class PromiseTests {
         due("load(): slot 0 is empty", Due.answer(() -> x.restore(0)), "throws.IllegalStateException");
         due("load(): slot 1 is empty", Due.answer(() -> x.restore(1)), "throws.IllegalStateException");
         due("load(): the text is kept", x.clearText(), 78);
-        SplicedLoops all = withText("Zr10p004045lc000002v023m01t007w004");
+        SplicedLoops all = Studios.withText("Zr10p004045lc000002v023m01t007w004");
         due("load() with each command", all.load(), 0);
         due("load() with each command: the state", Due.stateOf(all),
             "1 1 11 0 1 1 2 0 | reel 0 0 0 0 5 0 0 0 0 0| loop 2 2 3 4 1 0 1 3 1: 0 0");
         all.ticks(5);
         due("load() again makes all as in a new object", all.load() + " " + all.about(2) + " " + all.about(0), "0 11 1");
-        SplicedLoops left = withText("Zr20r20r20r20llllll" + "p000605p010055p009109" + "c000005c000500v099m31t999w030w021w020");
+        SplicedLoops left = Studios.withText("Zr20r20r20r20llllll" + "p000605p010055p009109" + "c000005c000500v099m31t999w030w021w020");
         due("load() leaves out what would throw and what cannot be cut", left.load(), 8);
         due("the time behind it", left.about(2), 1019);
-        SplicedLoops bad = busy();
+        SplicedLoops bad = Studios.busy();
         bad.append('x');
         due("load() of no studio", Due.answer(bad::load), "throws.IllegalStateException");
-        refuses("load() of an empty text", STATE, PromiseTests::usual, SplicedLoops::load);
+        refuses("load() of an empty text", STATE, Studios::usual, SplicedLoops::load);
         refuses("load() of no studio", STATE, () -> {
-            SplicedLoops y = busy();
+            SplicedLoops y = Studios.busy();
             y.append('c');
             return y;
         }, SplicedLoops::load);
-        SplicedLoops muted = withText("Zr09p001017lc000009t001m01");
+        SplicedLoops muted = Studios.withText("Zr09p001017lc000009t001m01");
         muted.load();
         due("mute in a text", muted.about(3) + " " + muted.about(5), "0 1");
-        SplicedLoops heard = withText("Zr09p001017lc000009t001m01m00");
+        SplicedLoops heard = Studios.withText("Zr09p001017lc000009t001m01m00");
         heard.load();
         due("mute with 0 in a text", heard.about(3) + " " + heard.about(5), "7 0");
     }
 
     private static void promise6() {
-        SplicedLoops x = usual();
+        SplicedLoops x = Studios.usual();
         x.splice(0, 0, 0, 4);
         x.splice(2, 0, 8, 8);
         x.mute(2, true);
@@ -250,12 +187,12 @@ public final class PromiseTests {
         due("about(3) with both loops", x.about(3), 11);
         x.undo();
         due("about(3) behind undo()", x.about(3), 7);
-        refuses("about(-1)", ARGUMENT, PromiseTests::busy, y -> y.about(-1));
-        refuses("about(8)", ARGUMENT, PromiseTests::busy, y -> y.about(8));
+        refuses("about(-1)", ARGUMENT, Studios::busy, y -> y.about(-1));
+        refuses("about(8)", ARGUMENT, Studios::busy, y -> y.about(8));
     }
 
     private static void promise7() {
-        SplicedLoops x = usual();
+        SplicedLoops x = Studios.usual();
         int[][] want = {{20, 4, 3, 31, 3}, {9, 2, 1, 14, 6}};
         for (int r = 0; r < 2; r++) {
             for (int what = 0; what < 5; what++) {
@@ -272,24 +209,24 @@ public final class PromiseTests {
         due("reelOf(0, 3) without a silence", full.reelOf(0, 3), 18);
         due("reelOf(0, 1) without a silence", full.reelOf(0, 1), 0);
         due("reelOf(0, 2) without a silence", full.reelOf(0, 2), 1);
-        refuses("reelOf(-1, 0)", INDEX, PromiseTests::busy, y -> y.reelOf(-1, 0));
-        refuses("reelOf(2, 9)", INDEX, PromiseTests::busy, y -> y.reelOf(2, 9));
-        refuses("reelOf(0, -1)", ARGUMENT, PromiseTests::busy, y -> y.reelOf(0, -1));
-        refuses("reelOf(0, 5)", ARGUMENT, PromiseTests::busy, y -> y.reelOf(0, 5));
+        refuses("reelOf(-1, 0)", INDEX, Studios::busy, y -> y.reelOf(-1, 0));
+        refuses("reelOf(2, 9)", INDEX, Studios::busy, y -> y.reelOf(2, 9));
+        refuses("reelOf(0, -1)", ARGUMENT, Studios::busy, y -> y.reelOf(0, -1));
+        refuses("reelOf(0, 5)", ARGUMENT, Studios::busy, y -> y.reelOf(0, 5));
     }
 
     private static void promise8() {
-        SplicedLoops x = usual();
+        SplicedLoops x = Studios.usual();
         due("sound(0, 2)", x.sound(0, 2), 0);
         due("sound(0, 3)", x.sound(0, 3), 4);
         due("sound(0, 10)", x.sound(0, 10), 9);
         due("sound(0, 19)", x.sound(0, 19), 0);
         due("sound(1, 2)", x.sound(1, 2), 7);
-        refuses("sound(2, 0)", INDEX, PromiseTests::busy, y -> y.sound(2, 0));
-        refuses("sound(-1, 0)", INDEX, PromiseTests::busy, y -> y.sound(-1, 0));
-        refuses("sound(0, 20)", INDEX, PromiseTests::busy, y -> y.sound(0, 20));
-        refuses("sound(1, 9)", INDEX, PromiseTests::busy, y -> y.sound(1, 9));
-        refuses("sound(0, -1)", INDEX, PromiseTests::busy, y -> y.sound(0, -1));
+        refuses("sound(2, 0)", INDEX, Studios::busy, y -> y.sound(2, 0));
+        refuses("sound(-1, 0)", INDEX, Studios::busy, y -> y.sound(-1, 0));
+        refuses("sound(0, 20)", INDEX, Studios::busy, y -> y.sound(0, 20));
+        refuses("sound(1, 9)", INDEX, Studios::busy, y -> y.sound(1, 9));
+        refuses("sound(0, -1)", INDEX, Studios::busy, y -> y.sound(0, -1));
     }
 
     private static void silenceIs(SplicedLoops x, int k, int first, int cells, int quiet) {
@@ -298,7 +235,7 @@ public final class PromiseTests {
     }
 
     private static void promise9() {
-        SplicedLoops x = usual();
+        SplicedLoops x = Studios.usual();
         silenceIs(x, 0, 0, 3, 0);
         silenceIs(x, 1, 7, 3, 8);
         silenceIs(x, 2, 11, 3, 12);
@@ -312,12 +249,12 @@ public final class PromiseTests {
         silenceIs(x, 3, 11, 3, 12);
         silenceIs(x, 4, 17, 1, -1);
         silenceIs(x, 5, 19, 1, 20);
-        refuses("silence(2, 0, 0)", INDEX, PromiseTests::busy, y -> y.silence(2, 0, 0));
-        refuses("silence(-1, 0, 3)", INDEX, PromiseTests::busy, y -> y.silence(-1, 0, 3));
-        refuses("silence(0, 4, 9)", INDEX, PromiseTests::busy, y -> y.silence(0, 4, 9));
-        refuses("silence(1, -1, 0)", INDEX, PromiseTests::busy, y -> y.silence(1, -1, 0));
-        refuses("silence(0, 3, 3)", ARGUMENT, PromiseTests::busy, y -> y.silence(0, 3, 3));
-        refuses("silence(0, 3, -1)", ARGUMENT, PromiseTests::busy, y -> y.silence(0, 3, -1));
+        refuses("silence(2, 0, 0)", INDEX, Studios::busy, y -> y.silence(2, 0, 0));
+        refuses("silence(-1, 0, 3)", INDEX, Studios::busy, y -> y.silence(-1, 0, 3));
+        refuses("silence(0, 4, 9)", INDEX, Studios::busy, y -> y.silence(0, 4, 9));
+        refuses("silence(1, -1, 0)", INDEX, Studios::busy, y -> y.silence(1, -1, 0));
+        refuses("silence(0, 3, 3)", ARGUMENT, Studios::busy, y -> y.silence(0, 3, 3));
+        refuses("silence(0, 3, -1)", ARGUMENT, Studios::busy, y -> y.silence(0, 3, -1));
     }
 
     private static void pieceIs(SplicedLoops x, int k, int first, int cells, int greatest) {
@@ -326,7 +263,7 @@ public final class PromiseTests {
     }
 
     private static void promise10() {
-        SplicedLoops x = usual();
+        SplicedLoops x = Studios.usual();
         pieceIs(x, 0, 3, 4, 4);
         pieceIs(x, 1, 10, 1, 9);
         pieceIs(x, 2, 14, 3, 2);
@@ -336,13 +273,13 @@ public final class PromiseTests {
         pieceIs(x, 0, 0, 7, 4);
         pieceIs(x, 2, 14, 3, 8);
         pieceIs(x, 3, 19, 1, 5);
-        refuses("piece(2, 0, 0)", INDEX, PromiseTests::busy, y -> y.piece(2, 0, 0));
-        refuses("piece(-1, 0, 3)", INDEX, PromiseTests::busy, y -> y.piece(-1, 0, 3));
-        refuses("piece(0, 3, 9)", INDEX, PromiseTests::busy, y -> y.piece(0, 3, 9));
-        refuses("piece(1, 1, 0)", INDEX, PromiseTests::busy, y -> y.piece(1, 1, 0));
-        refuses("piece(1, -1, 0)", INDEX, PromiseTests::busy, y -> y.piece(1, -1, 0));
-        refuses("piece(0, 2, 3)", ARGUMENT, PromiseTests::busy, y -> y.piece(0, 2, 3));
-        refuses("piece(0, 2, -1)", ARGUMENT, PromiseTests::busy, y -> y.piece(0, 2, -1));
+        refuses("piece(2, 0, 0)", INDEX, Studios::busy, y -> y.piece(2, 0, 0));
+        refuses("piece(-1, 0, 3)", INDEX, Studios::busy, y -> y.piece(-1, 0, 3));
+        refuses("piece(0, 3, 9)", INDEX, Studios::busy, y -> y.piece(0, 3, 9));
+        refuses("piece(1, 1, 0)", INDEX, Studios::busy, y -> y.piece(1, 1, 0));
+        refuses("piece(1, -1, 0)", INDEX, Studios::busy, y -> y.piece(1, -1, 0));
+        refuses("piece(0, 2, 3)", ARGUMENT, Studios::busy, y -> y.piece(0, 2, 3));
+        refuses("piece(0, 2, -1)", ARGUMENT, Studios::busy, y -> y.piece(0, 2, -1));
     }
 
     private static void loopIs(SplicedLoops x, int l, String want) {
@@ -354,7 +291,7 @@ public final class PromiseTests {
     }
 
     private static void promise11() {
-        SplicedLoops x = usual();
+        SplicedLoops x = Studios.usual();
         loopIs(x, 0, "16 1 1 0 0 0 0 16 2");
         loopIs(x, 1, "9 1 1 0 0 0 0 9 1");
         loopIs(x, 2, "0 1 1 0 -1 0 0 -1 0");
@@ -368,14 +305,14 @@ public final class PromiseTests {
         loopIs(x, 2, "0 9 8 0 -1 0 0 -1 0");
         x.speed(1, 9, 1);
         loopIs(x, 1, "9 9 1 3 3 0 0 1 1");
-        refuses("loopOf(3, 0)", INDEX, PromiseTests::busy, y -> y.loopOf(3, 0));
-        refuses("loopOf(-1, 9)", INDEX, PromiseTests::busy, y -> y.loopOf(-1, 9));
-        refuses("loopOf(0, -1)", ARGUMENT, PromiseTests::busy, y -> y.loopOf(0, -1));
-        refuses("loopOf(2, 9)", ARGUMENT, PromiseTests::busy, y -> y.loopOf(2, 9));
+        refuses("loopOf(3, 0)", INDEX, Studios::busy, y -> y.loopOf(3, 0));
+        refuses("loopOf(-1, 9)", INDEX, Studios::busy, y -> y.loopOf(-1, 9));
+        refuses("loopOf(0, -1)", ARGUMENT, Studios::busy, y -> y.loopOf(0, -1));
+        refuses("loopOf(2, 9)", ARGUMENT, Studios::busy, y -> y.loopOf(2, 9));
     }
 
     private static void promise12() {
-        SplicedLoops x = usual();
+        SplicedLoops x = Studios.usual();
         int[] want = {0, 0, 0, 4, 4, 4, 4, 0, 0, 0, 2, 2, 2, 0, 0, 0};
         for (int c = 0; c < 16; c++) {
             due("cell(0, " + c + ")", x.cell(0, c), want[c]);
@@ -384,23 +321,15 @@ public final class PromiseTests {
         x.paint(1, 0, 8, 3);
         due("cell(1, 1) behind paint", x.cell(1, 1), 7);
         due("cell(1, 0) behind paint", x.cell(1, 0), 0);
-        refuses("cell(0, 16)", INDEX, PromiseTests::busy, y -> y.cell(0, 16));
-        refuses("cell(0, -1)", INDEX, PromiseTests::busy, y -> y.cell(0, -1));
-        refuses("cell(2, 0)", INDEX, PromiseTests::busy, y -> y.cell(2, 0));
-        refuses("cell(3, 0)", INDEX, PromiseTests::busy, y -> y.cell(3, 0));
-        refuses("cell(-1, 0)", INDEX, PromiseTests::busy, y -> y.cell(-1, 0));
-    }
-
-    private static SplicedLoops threeReels() {
-        SplicedLoops x = new SplicedLoops();
-        x.reel(2);
-        x.reel(60);
-        x.reel(30);
-        return x;
+        refuses("cell(0, 16)", INDEX, Studios::busy, y -> y.cell(0, 16));
+        refuses("cell(0, -1)", INDEX, Studios::busy, y -> y.cell(0, -1));
+        refuses("cell(2, 0)", INDEX, Studios::busy, y -> y.cell(2, 0));
+        refuses("cell(3, 0)", INDEX, Studios::busy, y -> y.cell(3, 0));
+        refuses("cell(-1, 0)", INDEX, Studios::busy, y -> y.cell(-1, 0));
     }
 
     private static void promise13() {
-        SplicedLoops x = fresh();
+        SplicedLoops x = Studios.fresh();
         due("reel(2)", x.reel(2), 0);
         due("reel(60)", x.reel(60), 1);
         due("reelOf(1, 0)", x.reelOf(1, 0), 60);
@@ -411,21 +340,21 @@ public final class PromiseTests {
         x.undo();
         due("reel(50) behind undo()", x.reel(50), 2);
         due("it is all silent", x.reelOf(2, 3) + " " + x.reelOf(2, 4), "0 50");
-        SplicedLoops again = fresh();
+        SplicedLoops again = Studios.fresh();
         again.save(0);
         again.reel(30);
         again.paint(0, 0, 29, 9);
         again.restore(0);
         due("reel(60) behind restore()", again.reel(60), 0);
         due("it is all silent", again.reelOf(0, 3) + " " + again.reelOf(0, 4), "0 60");
-        refuses("reel(1)", ARGUMENT, PromiseTests::busy, y -> y.reel(1));
-        refuses("reel(61)", ARGUMENT, PromiseTests::busy, y -> y.reel(61));
-        refuses("reel(20) with three", STATE, PromiseTests::threeReels, y -> y.reel(20));
-        refuses("reel(1) with three", ARGUMENT, PromiseTests::threeReels, y -> y.reel(1));
+        refuses("reel(1)", ARGUMENT, Studios::busy, y -> y.reel(1));
+        refuses("reel(61)", ARGUMENT, Studios::busy, y -> y.reel(61));
+        refuses("reel(20) with three", STATE, Studios::threeReels, y -> y.reel(20));
+        refuses("reel(1) with three", ARGUMENT, Studios::threeReels, y -> y.reel(1));
     }
 
     private static void promise14() {
-        SplicedLoops x = silentReel(20);
+        SplicedLoops x = Studios.silentReel(20);
         due("paint(0, 0, 19, 5)", x.paint(0, 0, 19, 5), 20);
         due("paint(0, 3, 3, 5)", x.paint(0, 3, 3, 5), 0);
         due("paint(0, 3, 3, 6)", x.paint(0, 3, 3, 6), 1);
@@ -434,37 +363,29 @@ public final class PromiseTests {
         due("paint(0, 18, 19, 9)", x.paint(0, 18, 19, 9), 2);
         due("sounds", x.sound(0, 1) + " " + x.sound(0, 2) + " " + x.sound(0, 17) + " " + x.sound(0, 18), "0 5 5 9");
         due("paint is an action also if nothing becomes different", x.paint(0, 0, 0, 0) + " " + x.undo(), "0 8");
-        SplicedLoops loops = usual();
+        SplicedLoops loops = Studios.usual();
         String before = loops.loopOf(0, 0) + " " + loops.cell(0, 3) + " " + loops.about(3);
         loops.paint(0, 0, 19, 8);
         due("loops stay as they are", loops.loopOf(0, 0) + " " + loops.cell(0, 3) + " " + loops.about(3), before);
-        refuses("paint(2, 0, 0, 0)", INDEX, PromiseTests::busy, y -> y.paint(2, 0, 0, 0));
-        refuses("paint(-1, 1, 0, 10)", INDEX, PromiseTests::busy, y -> y.paint(-1, 1, 0, 10));
-        refuses("paint(0, -1, 0, 1)", INDEX, PromiseTests::busy, y -> y.paint(0, -1, 0, 1));
-        refuses("paint(0, 0, 20, 1)", INDEX, PromiseTests::busy, y -> y.paint(0, 0, 20, 1));
-        refuses("paint(0, 20, 3, 1)", INDEX, PromiseTests::busy, y -> y.paint(0, 20, 3, 1));
-        refuses("paint(0, 3, -1, 10)", INDEX, PromiseTests::busy, y -> y.paint(0, 3, -1, 10));
-        refuses("paint(0, 3, 2, 1)", ARGUMENT, PromiseTests::busy, y -> y.paint(0, 3, 2, 1));
-        refuses("paint(0, 3, 4, 10)", ARGUMENT, PromiseTests::busy, y -> y.paint(0, 3, 4, 10));
-        refuses("paint(0, 3, 4, -1)", ARGUMENT, PromiseTests::busy, y -> y.paint(0, 3, 4, -1));
-    }
-
-    private static SplicedLoops fourLoops() {
-        SplicedLoops x = new SplicedLoops();
-        for (int l = 0; l < 4; l++) {
-            x.loop();
-        }
-        return x;
+        refuses("paint(2, 0, 0, 0)", INDEX, Studios::busy, y -> y.paint(2, 0, 0, 0));
+        refuses("paint(-1, 1, 0, 10)", INDEX, Studios::busy, y -> y.paint(-1, 1, 0, 10));
+        refuses("paint(0, -1, 0, 1)", INDEX, Studios::busy, y -> y.paint(0, -1, 0, 1));
+        refuses("paint(0, 0, 20, 1)", INDEX, Studios::busy, y -> y.paint(0, 0, 20, 1));
+        refuses("paint(0, 20, 3, 1)", INDEX, Studios::busy, y -> y.paint(0, 20, 3, 1));
+        refuses("paint(0, 3, -1, 10)", INDEX, Studios::busy, y -> y.paint(0, 3, -1, 10));
+        refuses("paint(0, 3, 2, 1)", ARGUMENT, Studios::busy, y -> y.paint(0, 3, 2, 1));
+        refuses("paint(0, 3, 4, 10)", ARGUMENT, Studios::busy, y -> y.paint(0, 3, 4, 10));
+        refuses("paint(0, 3, 4, -1)", ARGUMENT, Studios::busy, y -> y.paint(0, 3, 4, -1));
     }
 
     private static void promise15() {
-        SplicedLoops x = fresh();
+        SplicedLoops x = Studios.fresh();
         for (int l = 0; l < 4; l++) {
             due("loop()", x.loop(), l);
             loopIs(x, l, "0 1 1 0 -1 0 0 -1 0");
         }
-        refuses("loop() with four", STATE, PromiseTests::fourLoops, SplicedLoops::loop);
-        SplicedLoops again = silentReel(4);
+        refuses("loop() with four", STATE, Studios::fourLoops, SplicedLoops::loop);
+        SplicedLoops again = Studios.silentReel(4);
         again.save(0);
         again.loop();
         again.splice(1, 0, 0, 4);
@@ -477,7 +398,7 @@ public final class PromiseTests {
     }
 
     private static void promise16() {
-        SplicedLoops x = usual();
+        SplicedLoops x = Studios.usual();
         due("splice(2, 0, 8, 13)", x.splice(2, 0, 8, 13), 0);
         due("splice(2, 0, 18, 20)", x.splice(2, 0, 18, 20), 0);
         loopIs(x, 2, "7 1 1 0 0 0 0 7 2");
@@ -501,18 +422,18 @@ public final class PromiseTests {
         }
         due("a refused splice is an action", x.undo() + " " + x.about(7), "9 6");
         lengths();
-        refuses("splice(3, 0, 0, 8)", INDEX, PromiseTests::busy, y -> y.splice(3, 0, 0, 8));
-        refuses("splice(-1, 0, 0, 8)", INDEX, PromiseTests::busy, y -> y.splice(-1, 0, 0, 8));
-        refuses("splice(0, 2, 0, 8)", INDEX, PromiseTests::busy, y -> y.splice(0, 2, 0, 8));
-        refuses("splice(0, -1, 0, 8)", INDEX, PromiseTests::busy, y -> y.splice(0, -1, 0, 8));
-        refuses("splice(0, 0, 0, 21)", INDEX, PromiseTests::busy, y -> y.splice(0, 0, 0, 21));
-        refuses("splice(0, 0, 21, 8)", INDEX, PromiseTests::busy, y -> y.splice(0, 0, 21, 8));
-        refuses("splice(0, 0, 0, -1)", INDEX, PromiseTests::busy, y -> y.splice(0, 0, 0, -1));
-        refuses("splice(0, 0, -1, 8)", INDEX, PromiseTests::busy, y -> y.splice(0, 0, -1, 8));
+        refuses("splice(3, 0, 0, 8)", INDEX, Studios::busy, y -> y.splice(3, 0, 0, 8));
+        refuses("splice(-1, 0, 0, 8)", INDEX, Studios::busy, y -> y.splice(-1, 0, 0, 8));
+        refuses("splice(0, 2, 0, 8)", INDEX, Studios::busy, y -> y.splice(0, 2, 0, 8));
+        refuses("splice(0, -1, 0, 8)", INDEX, Studios::busy, y -> y.splice(0, -1, 0, 8));
+        refuses("splice(0, 0, 0, 21)", INDEX, Studios::busy, y -> y.splice(0, 0, 0, 21));
+        refuses("splice(0, 0, 21, 8)", INDEX, Studios::busy, y -> y.splice(0, 0, 21, 8));
+        refuses("splice(0, 0, 0, -1)", INDEX, Studios::busy, y -> y.splice(0, 0, 0, -1));
+        refuses("splice(0, 0, -1, 8)", INDEX, Studios::busy, y -> y.splice(0, 0, -1, 8));
     }
 
     private static void lengths() {
-        SplicedLoops x = silentReel(60);
+        SplicedLoops x = Studios.silentReel(60);
         due("49 cells", x.splice(0, 0, 0, 49), 4);
         due("48 cells", x.splice(0, 0, 12, 60), 0);
         due("a cell more", x.splice(0, 0, 0, 1), 4);
@@ -527,7 +448,7 @@ public final class PromiseTests {
     }
 
     private static void promise17() {
-        SplicedLoops x = usual();
+        SplicedLoops x = Studios.usual();
         x.ticks(3);
         due("unsplice(0)", x.unsplice(0), 8);
         loopIs(x, 0, "8 1 1 0 0 0 0 8 1");
@@ -541,13 +462,13 @@ public final class PromiseTests {
         x.mute(1, true);
         x.unsplice(1);
         loopIs(x, 1, "0 2 3 0 -1 0 1 -1 0");
-        refuses("unsplice(2) of an empty loop", STATE, PromiseTests::busy, y -> y.unsplice(2));
-        refuses("unsplice(3)", INDEX, PromiseTests::busy, y -> y.unsplice(3));
-        refuses("unsplice(-1)", INDEX, PromiseTests::busy, y -> y.unsplice(-1));
+        refuses("unsplice(2) of an empty loop", STATE, Studios::busy, y -> y.unsplice(2));
+        refuses("unsplice(3)", INDEX, Studios::busy, y -> y.unsplice(3));
+        refuses("unsplice(-1)", INDEX, Studios::busy, y -> y.unsplice(-1));
     }
 
     private static void promise18() {
-        SplicedLoops x = usual();
+        SplicedLoops x = Studios.usual();
         x.ticks(5);
         due("speed(0, 2, 3)", x.speed(0, 2, 3), 15);
         loopIs(x, 0, "16 2 3 15 5 4 0 24 2");
@@ -557,16 +478,16 @@ public final class PromiseTests {
         due("speed(1, 4, 2)", x.speed(1, 4, 2), 12);
         due("its speed is as told", x.loopOf(1, 1) + " " + x.loopOf(1, 2), "4 2");
         due("speed(2, 7, 7) of an empty loop", x.speed(2, 7, 7), 0);
-        refuses("speed(3, 1, 1)", INDEX, PromiseTests::busy, y -> y.speed(3, 1, 1));
-        refuses("speed(-1, 0, 0)", INDEX, PromiseTests::busy, y -> y.speed(-1, 0, 0));
-        refuses("speed(0, 0, 1)", ARGUMENT, PromiseTests::busy, y -> y.speed(0, 0, 1));
-        refuses("speed(0, 10, 1)", ARGUMENT, PromiseTests::busy, y -> y.speed(0, 10, 1));
-        refuses("speed(0, 1, 0)", ARGUMENT, PromiseTests::busy, y -> y.speed(0, 1, 0));
-        refuses("speed(0, 1, 10)", ARGUMENT, PromiseTests::busy, y -> y.speed(0, 1, 10));
+        refuses("speed(3, 1, 1)", INDEX, Studios::busy, y -> y.speed(3, 1, 1));
+        refuses("speed(-1, 0, 0)", INDEX, Studios::busy, y -> y.speed(-1, 0, 0));
+        refuses("speed(0, 0, 1)", ARGUMENT, Studios::busy, y -> y.speed(0, 0, 1));
+        refuses("speed(0, 10, 1)", ARGUMENT, Studios::busy, y -> y.speed(0, 10, 1));
+        refuses("speed(0, 1, 0)", ARGUMENT, Studios::busy, y -> y.speed(0, 1, 0));
+        refuses("speed(0, 1, 10)", ARGUMENT, Studios::busy, y -> y.speed(0, 1, 10));
     }
 
     private static void promise19() {
-        SplicedLoops x = loopsOf("12", "34");
+        SplicedLoops x = Studios.loopsOf("12", "34");
         due("mute(0, true)", x.mute(0, true), 3);
         due("mute(1, true)", x.mute(1, true), 0);
         due("mute(1, true) again", x.mute(1, true), 0);
@@ -575,12 +496,12 @@ public final class PromiseTests {
         due("mute(0, false)", x.mute(0, false), 2);
         due("mute(1, false)", x.mute(1, false), 6);
         due("mute of a muted loop is an action", x.mute(1, false) + " " + x.undo(), "6 11");
-        refuses("mute(3, true)", INDEX, PromiseTests::busy, y -> y.mute(3, true));
-        refuses("mute(-1, false)", INDEX, PromiseTests::busy, y -> y.mute(-1, false));
+        refuses("mute(3, true)", INDEX, Studios::busy, y -> y.mute(3, true));
+        refuses("mute(-1, false)", INDEX, Studios::busy, y -> y.mute(-1, false));
     }
 
     private static void promise20() {
-        SplicedLoops x = loopsOf("123", "45");
+        SplicedLoops x = Studios.loopsOf("123", "45");
         due("ticks(1)", x.ticks(1), 7);
         due("ticks(1) again", x.ticks(1), 7);
         due("ticks(999)", x.ticks(999), 8);
@@ -588,15 +509,15 @@ public final class PromiseTests {
         due("the phases", x.loopOf(0, 3) + " " + x.loopOf(1, 3), "2 1");
         x.speed(0, 2, 3);
         due("ticks(2) at two thirds", x.ticks(2) + " " + x.loopOf(0, 3), "6 1");
-        SplicedLoops empty = fresh();
+        SplicedLoops empty = Studios.fresh();
         due("ticks(5) without loops", empty.ticks(5) + " " + empty.about(2), "0 5");
-        refuses("ticks(0)", ARGUMENT, PromiseTests::busy, y -> y.ticks(0));
-        refuses("ticks(1000)", ARGUMENT, PromiseTests::busy, y -> y.ticks(1000));
-        refuses("ticks(-1)", ARGUMENT, PromiseTests::busy, y -> y.ticks(-1));
+        refuses("ticks(0)", ARGUMENT, Studios::busy, y -> y.ticks(0));
+        refuses("ticks(1000)", ARGUMENT, Studios::busy, y -> y.ticks(1000));
+        refuses("ticks(-1)", ARGUMENT, Studios::busy, y -> y.ticks(-1));
     }
 
     private static void promise21() {
-        SplicedLoops x = loopsOf("129", "55");
+        SplicedLoops x = Studios.loopsOf("129", "55");
         x.reel(8);
         x.paint(2, 0, 7, 3);
         due("record(2, 6)", x.record(2, 6), 44);
@@ -611,15 +532,15 @@ public final class PromiseTests {
         x.mute(1, true);
         due("record(0, 3) without the muted loop", x.record(0, 3), 12);
         due("the loop stays as it is", x.cell(0, 0) + " " + x.cell(0, 1) + " " + x.cell(0, 2), "1 2 9");
-        refuses("record(2, 1)", INDEX, PromiseTests::busy, y -> y.record(2, 1));
-        refuses("record(-1, 0)", INDEX, PromiseTests::busy, y -> y.record(-1, 0));
-        refuses("record(0, 0)", ARGUMENT, PromiseTests::busy, y -> y.record(0, 0));
-        refuses("record(0, 21)", ARGUMENT, PromiseTests::busy, y -> y.record(0, 21));
-        refuses("record(1, 10)", ARGUMENT, PromiseTests::busy, y -> y.record(1, 10));
+        refuses("record(2, 1)", INDEX, Studios::busy, y -> y.record(2, 1));
+        refuses("record(-1, 0)", INDEX, Studios::busy, y -> y.record(-1, 0));
+        refuses("record(0, 0)", ARGUMENT, Studios::busy, y -> y.record(0, 0));
+        refuses("record(0, 21)", ARGUMENT, Studios::busy, y -> y.record(0, 21));
+        refuses("record(1, 10)", ARGUMENT, Studios::busy, y -> y.record(1, 10));
     }
 
     private static void promise22() {
-        SplicedLoops x = fresh();
+        SplicedLoops x = Studios.fresh();
         for (int i = 0; i < 15; i++) {
             x.ticks(1);
         }
@@ -641,13 +562,13 @@ public final class PromiseTests {
             due("undo() of action " + i, all.undo(), i);
             due("the state behind it", Due.stateOf(all), states[i]);
         }
-        SplicedLoops kept = busy();
+        SplicedLoops kept = Studios.busy();
         kept.append('l');
         kept.ticks(9);
         kept.undo();
         due("undo() leaves the text and the slots", kept.clearText() + " " + kept.restore(0) + " " + kept.about(2), "3 0 0");
         refuses("undo() behind restore()", STATE, () -> {
-            SplicedLoops y = busy();
+            SplicedLoops y = Studios.busy();
             y.restore(0);
             return y;
         }, SplicedLoops::undo);
@@ -671,7 +592,7 @@ public final class PromiseTests {
     }
 
     private static void promise23() {
-        SplicedLoops x = usual();
+        SplicedLoops x = Studios.usual();
         due("soundIn(0)", x.soundIn(0), 0);
         due("soundIn(1)", x.soundIn(1), 7);
         due("soundIn(17)", x.soundIn(17), 0);
@@ -684,8 +605,8 @@ public final class PromiseTests {
         x.mute(0, true);
         due("soundIn(11) without the muted loop", x.soundIn(11), 7);
         due("the time stays", x.about(2), 0);
-        refuses("soundIn(-1)", ARGUMENT, PromiseTests::busy, y -> y.soundIn(-1));
-        refuses("soundIn(1000001)", ARGUMENT, PromiseTests::busy, y -> y.soundIn(1000001));
+        refuses("soundIn(-1)", ARGUMENT, Studios::busy, y -> y.soundIn(-1));
+        refuses("soundIn(1000001)", ARGUMENT, Studios::busy, y -> y.soundIn(1000001));
     }
 
     private static void meets(SplicedLoops x, int l, int l2, int want) {
@@ -696,7 +617,7 @@ public final class PromiseTests {
     }
 
     private static void promise24() {
-        SplicedLoops x = loopsOf("12345", "1234567", "1234567890");
+        SplicedLoops x = Studios.loopsOf("12345", "1234567", "1234567890");
         meets(x, 0, 0, 0);
         meets(x, 0, 1, 0);
         x.ticks(1);
@@ -711,29 +632,29 @@ public final class PromiseTests {
         x.loop();
         meets(x, 0, 3, -1);
         meets(x, 3, 3, -1);
-        SplicedLoops later = loopsOf("123450", "1234567890");
+        SplicedLoops later = Studios.loopsOf("123450", "1234567890");
         later.ticks(2);
         later.unsplice(0);
         later.paint(0, 5, 5, 1);
         later.splice(0, 0, 0, 6);
         meets(later, 0, 1, 18);
-        SplicedLoops never = loopsOf("1234", "12345678");
+        SplicedLoops never = Studios.loopsOf("1234", "12345678");
         never.ticks(1);
         never.splice(0, 0, 0, 4);
         never.unsplice(0);
         meets(never, 0, 1, -1);
-        SplicedLoops stuck = loopsOf("1234", "123");
+        SplicedLoops stuck = Studios.loopsOf("1234", "123");
         stuck.ticks(1);
         stuck.speed(0, 2, 1);
         meets(stuck, 0, 1, -1);
         meets(stuck, 0, 0, -1);
         meets(stuck, 1, 1, 2);
-        refuses("meet(0, 3, 0)", INDEX, PromiseTests::busy, y -> y.meet(0, 3, 0));
-        refuses("meet(3, 0, 2)", INDEX, PromiseTests::busy, y -> y.meet(3, 0, 2));
-        refuses("meet(-1, 0, 0)", INDEX, PromiseTests::busy, y -> y.meet(-1, 0, 0));
-        refuses("meet(0, -1, 1)", INDEX, PromiseTests::busy, y -> y.meet(0, -1, 1));
-        refuses("meet(0, 1, 2)", ARGUMENT, PromiseTests::busy, y -> y.meet(0, 1, 2));
-        refuses("meet(2, 2, -1)", ARGUMENT, PromiseTests::busy, y -> y.meet(2, 2, -1));
+        refuses("meet(0, 3, 0)", INDEX, Studios::busy, y -> y.meet(0, 3, 0));
+        refuses("meet(3, 0, 2)", INDEX, Studios::busy, y -> y.meet(3, 0, 2));
+        refuses("meet(-1, 0, 0)", INDEX, Studios::busy, y -> y.meet(-1, 0, 0));
+        refuses("meet(0, -1, 1)", INDEX, Studios::busy, y -> y.meet(0, -1, 1));
+        refuses("meet(0, 1, 2)", ARGUMENT, Studios::busy, y -> y.meet(0, 1, 2));
+        refuses("meet(2, 2, -1)", ARGUMENT, Studios::busy, y -> y.meet(2, 2, -1));
     }
 
     /** Silent loops of the lengths told, all at 0; the first one has the speed 1 / 9. */
@@ -749,9 +670,9 @@ public final class PromiseTests {
     }
 
     private static void promise25() {
-        due("meetAll() without loops", fresh().meetAll(), -1);
-        due("meetAll() of empty loops", fourLoops().meetAll(), -1);
-        SplicedLoops x = loopsOf("12345", "1234567", "123456789");
+        due("meetAll() without loops", Studios.fresh().meetAll(), -1);
+        due("meetAll() of empty loops", Studios.fourLoops().meetAll(), -1);
+        SplicedLoops x = Studios.loopsOf("12345", "1234567", "123456789");
         x.loop();
         due("meetAll() at once", x.meetAll(), 0);
         x.ticks(2);
@@ -763,10 +684,10 @@ public final class PromiseTests {
         x.speed(0, 2, 1);
         x.speed(2, 2, 1);
         due("meetAll() at speed 2", x.meetAll(), 44);
-        SplicedLoops shared = loopsOf("123456", "1234", "1234567");
+        SplicedLoops shared = Studios.loopsOf("123456", "1234", "1234567");
         shared.ticks(2);
         due("meetAll() of periods with a common divisor", shared.meetAll(), 82);
-        SplicedLoops never = loopsOf("1234", "123456");
+        SplicedLoops never = Studios.loopsOf("1234", "123456");
         never.ticks(1);
         never.splice(0, 0, 0, 4);
         never.unsplice(0);
@@ -806,7 +727,7 @@ public final class PromiseTests {
     }
 
     private static void promise26() {
-        SplicedLoops x = usual();
+        SplicedLoops x = Studios.usual();
         due("loudest(200, 0)", x.loudest(200, 0), 20 - 9);
         due("loudest(200, 1)", x.loudest(200, 1), 19);
         due("loudest(18, 0)", x.loudest(18, 0), 9);
@@ -818,16 +739,16 @@ public final class PromiseTests {
         due("loudest(2000, 1) now", x.loudest(2000, 1), 0);
         x.mute(1, true);
         due("loudest(50, 0) without a muted loop", x.loudest(50, 0), 4);
-        due("loudest(5, 0) without loops", fresh().loudest(5, 0), 0);
-        due("loudest(5, 1) without loops", fresh().loudest(5, 1), 0);
-        refuses("loudest(0, 0)", ARGUMENT, PromiseTests::busy, y -> y.loudest(0, 0));
-        refuses("loudest(2001, 0)", ARGUMENT, PromiseTests::busy, y -> y.loudest(2001, 0));
-        refuses("loudest(5, 2)", ARGUMENT, PromiseTests::busy, y -> y.loudest(5, 2));
-        refuses("loudest(5, -1)", ARGUMENT, PromiseTests::busy, y -> y.loudest(5, -1));
+        due("loudest(5, 0) without loops", Studios.fresh().loudest(5, 0), 0);
+        due("loudest(5, 1) without loops", Studios.fresh().loudest(5, 1), 0);
+        refuses("loudest(0, 0)", ARGUMENT, Studios::busy, y -> y.loudest(0, 0));
+        refuses("loudest(2001, 0)", ARGUMENT, Studios::busy, y -> y.loudest(2001, 0));
+        refuses("loudest(5, 2)", ARGUMENT, Studios::busy, y -> y.loudest(5, 2));
+        refuses("loudest(5, -1)", ARGUMENT, Studios::busy, y -> y.loudest(5, -1));
     }
 
     private static void promise27() {
-        SplicedLoops x = loopsOf("12312", "31212", "1212");
+        SplicedLoops x = Studios.loopsOf("12312", "31212", "1212");
         due("turnedBy(0, 0)", x.turnedBy(0, 0), 0);
         due("turnedBy(0, 1)", x.turnedBy(0, 1), 3);
         due("turnedBy(1, 0)", x.turnedBy(1, 0), 2);
@@ -837,23 +758,23 @@ public final class PromiseTests {
         due("turnedBy(3, 3)", x.turnedBy(3, 3), -1);
         due("turnedBy(3, 0)", x.turnedBy(3, 0), -1);
         due("turnedBy(0, 3)", x.turnedBy(0, 3), -1);
-        SplicedLoops twice = loopsOf("1212", "2121", "2211");
+        SplicedLoops twice = Studios.loopsOf("1212", "2121", "2211");
         due("the least of two turns", twice.turnedBy(0, 1), 1);
         due("no turn of as many cells", twice.turnedBy(0, 2), -1);
-        SplicedLoops last = loopsOf("1234", "2341");
+        SplicedLoops last = Studios.loopsOf("1234", "2341");
         due("the last cell as the first", last.turnedBy(0, 1), 3);
         due("and back", last.turnedBy(1, 0), 1);
-        due("the first cell alone is unlike", loopsOf("122", "322").turnedBy(0, 1), -1);
-        due("the last cell alone is unlike", loopsOf("221", "223").turnedBy(0, 1), -1);
-        refuses("turnedBy(3, 0)", INDEX, PromiseTests::busy, y -> y.turnedBy(3, 0));
-        refuses("turnedBy(0, 3)", INDEX, PromiseTests::busy, y -> y.turnedBy(0, 3));
-        refuses("turnedBy(-1, 0)", INDEX, PromiseTests::busy, y -> y.turnedBy(-1, 0));
-        refuses("turnedBy(0, -1)", INDEX, PromiseTests::busy, y -> y.turnedBy(0, -1));
+        due("the first cell alone is unlike", Studios.loopsOf("122", "322").turnedBy(0, 1), -1);
+        due("the last cell alone is unlike", Studios.loopsOf("221", "223").turnedBy(0, 1), -1);
+        refuses("turnedBy(3, 0)", INDEX, Studios::busy, y -> y.turnedBy(3, 0));
+        refuses("turnedBy(0, 3)", INDEX, Studios::busy, y -> y.turnedBy(0, 3));
+        refuses("turnedBy(-1, 0)", INDEX, Studios::busy, y -> y.turnedBy(-1, 0));
+        refuses("turnedBy(0, -1)", INDEX, Studios::busy, y -> y.turnedBy(0, -1));
     }
 
-    /** The object that scripts are tried on: usual() behind one tick, loop 0 at phase 1, loop 1 at phase 1, sound 7. */
+    /** The object that scripts are tried on: Studios.usual() behind one tick, loop 0 at phase 1, loop 1 at phase 1, sound 7. */
     private static SplicedLoops scripted() {
-        SplicedLoops x = usual();
+        SplicedLoops x = Studios.usual();
         x.ticks(1);
         return x;
     }
@@ -913,52 +834,18 @@ public final class PromiseTests {
         two(0, 1000001, 0);
         two(1000001, 0, 1);
         two(2200008, 2200008, -1);
-        SplicedLoops full = silentReel(60);
+        SplicedLoops full = Studios.silentReel(60);
         full.splice(0, 0, 0, 40);
         due("a piece that cannot be cut fails", full.runScript(2, 20000082000001L), 1);
         due("both states stay", full.about(7) + " " + full.about(6), "0 40");
         due("runScript(2, ..) of all digits", scripted().runScript(2, 99999999999999L), 0);
         due("runScript(1, ..) of all digits", scripted().runScript(1, 9999999L), 0);
-        refuses("runScript(0, 0)", ARGUMENT, PromiseTests::busy, y -> y.runScript(0, 0));
-        refuses("runScript(3, 0)", ARGUMENT, PromiseTests::busy, y -> y.runScript(3, 0));
-        refuses("runScript(1, -1)", ARGUMENT, PromiseTests::busy, y -> y.runScript(1, -1));
-        refuses("runScript(1, 10000000)", ARGUMENT, PromiseTests::busy, y -> y.runScript(1, 10000000));
-        refuses("runScript(2, 100000000000000)", ARGUMENT, PromiseTests::busy, y -> y.runScript(2, 100000000000000L));
-        refuses("runScript(2, Long.MIN_VALUE)", ARGUMENT, PromiseTests::busy, y -> y.runScript(2, Long.MIN_VALUE));
-    }
-
-    /** What a turn does, told by the document's words with the face's own methods. */
-    private static void turn(SplicedLoops x, int r) {
-        int q = r / 16;
-        switch (r % 16) {
-            case 0: x.reel(2 + q % 59); break;
-            case 1: x.loop(); break;
-            case 2: case 3: case 4: x.paint(q % 3, q / 4 % 60, q / 4 % 60 + q / 256 % 8, q / 2048 % 10); break;
-            case 5: case 6: case 7: case 8: x.splice(q % 4, q / 4 % 3, q / 16 % 61, q / 16 % 61 + 1 + q / 1024 % 20); break;
-            case 9: x.speed(q % 4, 1 + q / 4 % 9, 1 + q / 64 % 9); break;
-            case 10:
-                if (q / 8 % 2 == 0) {
-                    x.mute(q % 4, q / 4 % 2 == 1);
-                } else {
-                    x.unsplice(q % 4);
-                }
-                break;
-            case 11: x.record(q % 3, 1 + q / 4 % 40); break;
-            default: x.ticks(1 + q % 50); break;
-        }
-    }
-
-    private static int byTurns(SplicedLoops x, long seed, int m) {
-        long s = seed;
-        for (int i = 0; i < m; i++) {
-            s = s * 6364136223846793005L + 1442695040888963407L;
-            int r = (int) (s >>> 33);
-            Due.answer(() -> {
-                turn(x, r);
-                return "";
-            });
-        }
-        return 1000 * x.about(6) + x.about(3);
+        refuses("runScript(0, 0)", ARGUMENT, Studios::busy, y -> y.runScript(0, 0));
+        refuses("runScript(3, 0)", ARGUMENT, Studios::busy, y -> y.runScript(3, 0));
+        refuses("runScript(1, -1)", ARGUMENT, Studios::busy, y -> y.runScript(1, -1));
+        refuses("runScript(1, 10000000)", ARGUMENT, Studios::busy, y -> y.runScript(1, 10000000));
+        refuses("runScript(2, 100000000000000)", ARGUMENT, Studios::busy, y -> y.runScript(2, 100000000000000L));
+        refuses("runScript(2, Long.MIN_VALUE)", ARGUMENT, Studios::busy, y -> y.runScript(2, Long.MIN_VALUE));
     }
 
     private static void promise29() {
@@ -967,21 +854,23 @@ public final class PromiseTests {
         for (int i = 0; i < 200; i++) {
             long seed = i < seeds.length ? seeds[i] : i * 7919L;
             int m = i % 60 + 1;
-            int want = byTurns(usual(), seed, m);
+            int want = Turns.byTurns(Studios.usual(), seed, m);
             loud += want % 1000 > 0 ? 1 : 0;
-            due("simulate(" + seed + ", " + m + ")", usual().simulate(seed, m), want);
-            due("simulate(" + seed + ", 60) on a new object", fresh().simulate(seed, 60), byTurns(fresh(), seed, 60));
+            due("simulate(" + seed + ", " + m + ")", Studios.usual().simulate(seed, m), want);
+            due("simulate(" + seed + ", 60) on a new object", Studios.fresh().simulate(seed, 60), Turns.byTurns(Studios.fresh(), seed, 60));
         }
         due("some end with a sound", loud > 20, true);
-        SplicedLoops x = busy();
-        x.simulate(5, 60);
-        due("simulate() changes nothing", Due.picture(x), Due.picture(busy()));
-        refuses("simulate(1, 0)", ARGUMENT, PromiseTests::busy, y -> y.simulate(1, 0));
-        refuses("simulate(1, 61)", ARGUMENT, PromiseTests::busy, y -> y.simulate(1, 61));
+        Due.same("simulate() changes nothing", () -> {
+            SplicedLoops x = Studios.busy();
+            x.simulate(5, 60);
+            return x;
+        }, Studios::busy);
+        refuses("simulate(1, 0)", ARGUMENT, Studios::busy, y -> y.simulate(1, 0));
+        refuses("simulate(1, 61)", ARGUMENT, Studios::busy, y -> y.simulate(1, 61));
     }
 
     private static void promise30() {
-        SplicedLoops x = usual();
+        SplicedLoops x = Studios.usual();
         due("save(0)", x.save(0), 0);
         x.ticks(7);
         due("save(1)", x.save(1), 7);
@@ -991,12 +880,12 @@ public final class PromiseTests {
         due("save() leaves the remembered states", x.undo(), 11);
         due("the slot has the later state", x.restore(0), 3);
         due("the other slot is as it was", x.restore(1), 7);
-        refuses("save(-1)", INDEX, PromiseTests::busy, y -> y.save(-1));
-        refuses("save(2)", INDEX, PromiseTests::busy, y -> y.save(2));
+        refuses("save(-1)", INDEX, Studios::busy, y -> y.save(-1));
+        refuses("save(2)", INDEX, Studios::busy, y -> y.save(2));
     }
 
     private static void promise31() {
-        SplicedLoops x = usual();
+        SplicedLoops x = Studios.usual();
         x.ticks(4);
         x.splice(0, 0, 1, 0);
         x.mute(1, true);
@@ -1021,9 +910,9 @@ public final class PromiseTests {
         Due.write(x, "Zl");
         x.restore(1);
         due("restore() leaves the text", x.clearText(), 2);
-        refuses("restore(1) with nothing in it", STATE, PromiseTests::busy, y -> y.restore(1));
-        refuses("restore(-1)", INDEX, PromiseTests::busy, y -> y.restore(-1));
-        refuses("restore(2)", INDEX, PromiseTests::busy, y -> y.restore(2));
+        refuses("restore(1) with nothing in it", STATE, Studios::busy, y -> y.restore(1));
+        refuses("restore(-1)", INDEX, Studios::busy, y -> y.restore(-1));
+        refuses("restore(2)", INDEX, Studios::busy, y -> y.restore(2));
     }
 
     public static void main(String[] args) {
