@@ -294,6 +294,23 @@ public final class WouldBeEdgeTests {
             x.speed(0, 2, 1);
             due("meetAll() of one that is never at 0", x.meetAll(), -1);
         });
+        test("Promise 25: NONE if two never meet, whatever those behind them do", () -> {
+            SplicedLoops x = apart(4, 1, 3);
+            x.speed(0, 2, 1);
+            due("meetAll() with a first one that is never at 0", x.meetAll(), -1);
+            SplicedLoops y = apart(4, 1, 4);
+            y.loop();
+            y.splice(2, 0, 0, 1);
+            due("meetAll() with one of one cell behind them", y.meetAll(), -1);
+        });
+        test("Promise 25: periods with a common divisor", () -> {
+            SplicedLoops x = Studios.silentLoops(4, 6, 7);
+            x.ticks(1);
+            due("meetAll()", x.meetAll(), 83);
+            SplicedLoops y = Studios.silentLoops(12, 18, 8, 27);
+            y.ticks(1);
+            due("meetAll()", y.meetAll(), 215);
+        });
         test("Promise 25: each two meet, and all a tick later than now", () -> {
             SplicedLoops x = Studios.silentLoops(6, 10, 15);
             x.ticks(29);
