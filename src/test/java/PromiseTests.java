@@ -552,15 +552,17 @@ public final class PromiseTests {
         due("the time behind it", x.about(2), 3);
         x.ticks(7);
         due("undo() behind a new action", x.undo() + " " + x.about(2), "0 3");
-        SplicedLoops all = new SplicedLoops();
-        String[] states = new String[12];
-        for (int i = 0; i < 12; i++) {
-            states[i] = Due.stateOf(all);
-            actionOf(all, i);
-        }
-        for (int i = 11; i >= 0; i--) {
-            due("undo() of action " + i, all.undo(), i);
-            due("the state behind it", Due.stateOf(all), states[i]);
+        for (int undone = 1; undone <= 12; undone++) {
+            SplicedLoops all = new SplicedLoops();
+            String before = "";
+            for (int i = 0; i < 12; i++) {
+                before = i == 12 - undone ? Due.stateOf(all) : before;
+                actionOf(all, i);
+            }
+            for (int left = 11; left >= 12 - undone; left--) {
+                due("undo() of action " + left, all.undo(), left);
+            }
+            due("the state behind undo() of " + undone + " actions", Due.stateOf(all), before);
         }
         SplicedLoops kept = Studios.busy();
         kept.append('l');

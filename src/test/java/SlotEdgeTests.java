@@ -40,7 +40,7 @@ public final class SlotEdgeTests {
             due("restore(0)", x.restore(0), 0);
         });
         test("Promise 30: a slot that is full is saved over", () -> {
-            SplicedLoops x = Studios.full();
+            SplicedLoops x = Studios.busy();
             x.ticks(100);
             String saved = Due.stateOf(x);
             int time = x.save(0);
@@ -154,7 +154,7 @@ public final class SlotEdgeTests {
             due("undo()", x.undo() + " " + x.about(2), "0 " + time);
         });
         test("Promise 31: the slot keeps it, also behind other actions", () -> {
-            SplicedLoops x = Studios.full();
+            SplicedLoops x = Studios.busy();
             x.restore(0);
             String saved = Due.stateOf(x);
             x.paint(0, 0, 19, 9);
